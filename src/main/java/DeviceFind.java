@@ -689,7 +689,6 @@ public final class DeviceFind {
 
         int add(int input) {
             inputs[polygons] = input;
-            corners[polygons] = 0;
             polygons++;
             return polygons - 1;
         }
