@@ -24,6 +24,7 @@ public final class FindTest {
         manyNets();
         runsOneAfterAnother();
         layersAnew();
+        mostOfAll();
         Check.end();
     }
 
@@ -557,15 +558,61 @@ public final class FindTest {
             Check.due("no net", -1, () -> x.net(0, 0, 0));
         }
         // what a run() that threw had at hand is not in the next one
-        DeviceFind many = reading(2, 1, "input a=0;input b=1;make c=a and b;wire c;device d=c pins c;");
+        DeviceFind many = reading(3, 1, "input a=0;input b=1;make c=a and b;wire c;device d=c pins c;");
         grid(many, 18, 18);
         Check.due("run", UNSUPPORTED, many::run);
-        Check.same("read", 1, Check.read(many, "input a=0;wire a;device d=a pins a;"));
+        Check.same("read", 1, Check.read(many, "input a=0;input e=2;wire e;device d=a pins e;"));
         Check.due("run", 18, many::run);
         for (int device = 0; device < 18; device++) {
             place(many, device, 0, device, 2 * device, 0);
             sizesOf(many, device, 64, 130, 0);
         }
+    }
+
+    /** As many layers, wires, joins, kinds and polygons as there can be. */
+    private static void mostOfAll() {
+        StringBuilder text = new StringBuilder("input a=0;");
+        for (char layer = 'b'; layer < 'y'; layer++) {
+            text.append("make ").append(layer).append("=a or a;");
+        }
+        for (char wire = 'q'; wire < 'y'; wire++) {
+            text.append("wire ").append(wire).append(';');
+        }
+        text.append("join q x by x;".repeat(14)).append("join r w by x;join s v by x;");
+        DeviceFind x = reading(1, 0, text.toString());
+        for (int k = 0; k < 59; k++) {
+            Check.rectangle(x, 0, k, k, 1, 1);
+        }
+        Check.rectangle(x, 0, 63, 63, 1, 1);
+        int[] counts = {24, 8, 16, 0, 0, 0, 60};
+        for (int what = 0; what < counts.length; what++) {
+            int w = what;
+            Check.due("count " + what, counts[what], () -> x.count(w));
+        }
+        Check.due("run", 0, x::run);
+        Check.due("nets", 5 * 60, () -> x.count(5));
+        int[] firstNets = {0, 60, 120, 180, 240, 120, 60, 0};
+        for (int wire = 0; wire < 8; wire++) {
+            int w = wire;
+            Check.due("net of wire " + wire, firstNets[wire], () -> x.net(w, 0, 0));
+            Check.due("net of wire " + wire, firstNets[wire] + 59, () -> x.net(w, 63, 63));
+        }
+        DeviceFind kinds = reading(1, 8, "input a=0;wire a;device a=a pins a;device b=a pins a;device c=a pins a;"
+                + "device d=a pins a;device e=a pins a;device f=a pins a;device g=a pins a;device h=a pins a a a a;");
+        for (int k = 0; k < 20; k++) {
+            Check.rectangle(kinds, 0, 3 * k, k, 2, 1);
+            kinds.text(0, 3 * k, k, k);
+            kinds.text(0, 3 * k + 1, k, 19 - k);
+        }
+        Check.due("run", 160, kinds::run);
+        Check.due("the last kind", 7, () -> kinds.device(159, 0));
+        Check.due("its last pin", -1, () -> kinds.pin(159, 3));
+        Check.due("its first pin", 19, () -> kinds.pin(159, 0));
+        Check.due("joined", 20, () -> kinds.joined(6));
+        Check.due("joined", 0, () -> kinds.joined(7));
+        Check.due("bad", 140, () -> kinds.bad(0));
+        Check.due("named by the last text", 0, () -> kinds.named(19));
+        Check.due("twice named", 19, () -> kinds.twice(19));
     }
 
     /** Two polygons that go there and back eight times: the one has four columns, the other four rows. */
