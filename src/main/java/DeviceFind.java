@@ -643,13 +643,11 @@ public final class DeviceFind {
         }
 
         private int takeWay() {
-            if (takeWord("and")) {
-                return AND;
+            int way = isWord("and") ? AND : isWord("or") ? OR : isWord("less") ? LESS : NONE;
+            if (way != NONE) {
+                at++;
             }
-            if (takeWord("or")) {
-                return OR;
-            }
-            return takeWord("less") ? LESS : NONE;
+            return way;
         }
 
         private boolean takeWord(String word) {
