@@ -4,8 +4,24 @@ import java.util.concurrent.Callable;
 final class Check {
     private static int asked = 0;
     private static int wrong = 0;
+    private static String sentence = "";
 
     private Check() {
+    }
+
+    /** A test of one sentence of the document: it fails, too, if it asks nothing or does not come to its end. */
+    static void sentence(String words, Runnable test) {
+        int before = asked;
+        sentence = words;
+        try {
+            test.run();
+        } catch (RuntimeException e) {
+            same("the test of the sentence", "its end", e);
+        }
+        if (asked == before) {
+            same("the test of the sentence", "answers", "none");
+        }
+        sentence = "";
     }
 
     /** What a call answers as text: a number (a boolean counts 1 or 0), or throws. and the exception's name. */
@@ -29,7 +45,8 @@ final class Check {
         asked++;
         if (!String.valueOf(want).equals(String.valueOf(got))) {
             wrong++;
-            System.out.println(what + " answered " + got + ", due is " + want);
+            String of = sentence.isEmpty() ? "" : " (" + sentence + ")";
+            System.out.println(what + " answered " + got + ", due is " + want + of);
         }
     }
 
@@ -50,6 +67,13 @@ final class Check {
         return x.read();
     }
 
+    /** A new object with so many inputs that has read a right text of so many kinds. */
+    static DeviceFind reading(int layers, int kinds, String text) {
+        DeviceFind x = new DeviceFind(layers);
+        same("read of " + text, kinds, read(x, text));
+        return x;
+    }
+
     /** A polygon of an input with corners x, y, x, y ..: its number. */
     static int polygon(DeviceFind x, int input, int... corners) {
         int polygon = x.polygon(input);
@@ -62,6 +86,23 @@ final class Check {
     /** The rectangle of squares from (x, y) on. */
     static int rectangle(DeviceFind d, int input, int x, int y, int width, int height) {
         return polygon(d, input, x, y, x + width, y, x + width, y + height, x, y + height);
+    }
+
+    /** One square of an input. */
+    static int square(DeviceFind d, int input, int x, int y) {
+        return rectangle(d, input, x, y, 1, 1);
+    }
+
+    /** The squares of a wire from (0, 0) on, as rows from y = 0 on parted by blanks. */
+    static String picture(DeviceFind x, int wire, int width, int height) {
+        StringBuilder all = new StringBuilder();
+        for (int y = 0; y < height; y++) {
+            all.append(y == 0 ? "" : " ");
+            for (int column = 0; column < width; column++) {
+                all.append(x.net(wire, column, y) == DeviceFind.NONE ? '.' : '#');
+            }
+        }
+        return all.toString();
     }
 
     static void end() {

@@ -90,12 +90,6 @@ public final class FindTest {
         Check.due("bad(MAX)", -1, () -> x.bad(Integer.MAX_VALUE));
     }
 
-    private static DeviceFind reading(int layers, int kinds, String text) {
-        DeviceFind x = new DeviceFind(layers);
-        Check.same("read of " + text, kinds, Check.read(x, text));
-        return x;
-    }
-
     private static void place(DeviceFind x, int device, int kind, int shape, int column, int row) {
         int[] want = {kind, shape, x.device(device, 2), column, row};
         for (int what = 0; what < 5; what++) {
@@ -105,7 +99,7 @@ public final class FindTest {
     }
 
     private static void shapesInOrder() {
-        DeviceFind x = reading(1, 1, "input a=0;wire a;device d=a pins a;");
+        DeviceFind x = Check.reading(1, 1, "input a=0;wire a;device d=a pins a;");
         Check.rectangle(x, 0, 0, 10, 1, 2);
         Check.rectangle(x, 0, 30, 5, 2, 1);
         // its leftmost square is far left of its lowest row
@@ -138,7 +132,7 @@ public final class FindTest {
     }
 
     private static void madeLayers() {
-        DeviceFind x = reading(2, 0, "input a=0;input b=1;make c=a and b;make d=a or b;make e=a less b;"
+        DeviceFind x = Check.reading(2, 0, "input a=0;input b=1;make c=a and b;make d=a or b;make e=a less b;"
                 + "make f=b less a;make g=e or f;make h=a and a;make i=a less a;"
                 + "wire c;wire d;wire e;wire f;wire g;wire h;wire i;");
         Check.rectangle(x, 0, 0, 0, 2, 1);
@@ -157,7 +151,7 @@ public final class FindTest {
     }
 
     private static void devices() {
-        DeviceFind x = reading(2, 3, "input a=0;input b=1;wire a;wire b;"
+        DeviceFind x = Check.reading(2, 3, "input a=0;input b=1;wire a;wire b;"
                 + "device q=b pins a;device p=a pins b;device r=b pins b;");
         Check.rectangle(x, 0, 0, 0, 2, 2);
         Check.rectangle(x, 0, 8, 0, 2, 2);
@@ -185,40 +179,40 @@ public final class FindTest {
     }
 
     private static void sizes() {
-        DeviceFind x = reading(3, 1, "input a=0;input b=1;input c=2;wire b;wire c;device d=a pins b c;");
+        DeviceFind x = Check.reading(3, 1, "input a=0;input b=1;input c=2;wire b;wire c;device d=a pins b c;");
         // a ring round one square
         Check.polygon(x, 0, 10, 10, 13, 10, 13, 13, 10, 13);
         Check.rectangle(x, 1, 11, 11, 1, 5);
         Check.rectangle(x, 2, 13, 10, 3, 3);
         Check.due("run", 1, x::run);
         sizesOf(x, 0, 9, 12, 1);
-        DeviceFind ring = reading(2, 1, "input a=0;input b=1;make c=a less b;wire b;device d=c pins b;");
+        DeviceFind ring = Check.reading(2, 1, "input a=0;input b=1;make c=a less b;wire b;device d=c pins b;");
         Check.rectangle(ring, 0, 10, 10, 3, 3);
         Check.rectangle(ring, 1, 11, 11, 1, 1);
         Check.due("run", 1, ring::run);
         sizesOf(ring, 0, 8, 16, 4);
-        DeviceFind around = reading(2, 1, "input a=0;input b=1;wire b;device d=a pins b;");
+        DeviceFind around = Check.reading(2, 1, "input a=0;input b=1;wire b;device d=a pins b;");
         Check.rectangle(around, 0, 10, 10, 2, 3);
         Check.rectangle(around, 1, 8, 8, 8, 8);
         Check.due("run", 1, around::run);
         sizesOf(around, 0, 6, 10, 10);
-        DeviceFind notch = reading(2, 1, "input a=0;input b=1;wire b;device d=a pins b;");
+        DeviceFind notch = Check.reading(2, 1, "input a=0;input b=1;wire b;device d=a pins b;");
         Check.polygon(notch, 0, 10, 10, 13, 10, 13, 12, 12, 12, 12, 11, 11, 11, 11, 12, 10, 12);
         Check.rectangle(notch, 1, 11, 11, 1, 2);
         Check.due("run", 1, notch::run);
         sizesOf(notch, 0, 5, 12, 3);
-        DeviceFind same = reading(1, 1, "input a=0;wire a;device d=a pins a;");
+        DeviceFind same = Check.reading(1, 1, "input a=0;wire a;device d=a pins a;");
         Check.rectangle(same, 0, 1, 1, 3, 3);
         Check.due("run", 1, same::run);
         sizesOf(same, 0, 9, 12, 0);
     }
 
     private static void sizesAtEdges() {
-        DeviceFind x = reading(2, 1, "input a=0;input b=1;wire b;device d=a pins b;");
+        DeviceFind x = Check.reading(2, 1, "input a=0;input b=1;wire b;device d=a pins b;");
         Check.rectangle(x, 0, 0, 0, 64, 64);
         Check.due("run", 1, x::run);
         sizesOf(x, 0, 4096, 256, 0);
-        DeviceFind corners = reading(2, 1, "input a=0;input b=1;wire b;device d=a pins b;");
+        DeviceFind corners = Check.reading(2, 1, "input a=0;input b=1;wire b;device d=a pins b;");
         Check.rectangle(corners, 0, 0, 0, 1, 1);
         Check.rectangle(corners, 0, 63, 0, 1, 1);
         Check.rectangle(corners, 0, 0, 63, 1, 1);
@@ -235,7 +229,7 @@ public final class FindTest {
     }
 
     private static void pins() {
-        DeviceFind x = reading(4, 2, "input a=0;input b=1;input c=2;input d=3;wire b;wire c;wire d;"
+        DeviceFind x = Check.reading(4, 2, "input a=0;input b=1;input c=2;input d=3;wire b;wire c;wire d;"
                 + "device p=a pins d b;device q=a pins c;");
         Check.rectangle(x, 0, 10, 10, 2, 2);
         Check.rectangle(x, 1, 12, 12, 2, 2); // at a corner alone
@@ -254,7 +248,7 @@ public final class FindTest {
     }
 
     private static void pinsOfOneWire() {
-        DeviceFind x = reading(3, 2, "input a=0;input b=1;input c=2;wire b;wire c;"
+        DeviceFind x = Check.reading(3, 2, "input a=0;input b=1;input c=2;wire b;wire c;"
                 + "device p=a pins b c b b;device q=a pins b b b b;");
         Check.rectangle(x, 0, 10, 10, 5, 1);
         Check.rectangle(x, 1, 14, 11, 1, 1);
@@ -275,7 +269,7 @@ public final class FindTest {
     }
 
     private static void badDevices() {
-        DeviceFind x = reading(3, 1, "input a=0;input b=1;input c=2;wire b;wire c;device p=a pins b;");
+        DeviceFind x = Check.reading(3, 1, "input a=0;input b=1;input c=2;wire b;wire c;device p=a pins b;");
         Check.rectangle(x, 0, 0, 0, 2, 1); // good: the other wire is not of its pins'
         Check.rectangle(x, 1, 0, 1, 1, 1);
         Check.rectangle(x, 2, 1, 1, 1, 1);
@@ -299,7 +293,7 @@ public final class FindTest {
     }
 
     private static void nets() {
-        DeviceFind x = reading(3, 0, "input a=0;input b=1;input c=2;wire b;wire a;join a b by c;");
+        DeviceFind x = Check.reading(3, 0, "input a=0;input b=1;input c=2;wire b;wire a;join a b by c;");
         Check.rectangle(x, 0, 0, 0, 2, 1);
         Check.rectangle(x, 0, 4, 0, 2, 1);
         Check.rectangle(x, 0, 8, 0, 2, 1);
@@ -321,7 +315,7 @@ public final class FindTest {
 
     private static void netsOverShapes() {
         // one shape joins all that it meets, also of one wire, and of wires that are one
-        DeviceFind x = reading(3, 0, "input a=0;input b=1;input c=2;wire a;wire b;join a a by c;");
+        DeviceFind x = Check.reading(3, 0, "input a=0;input b=1;input c=2;wire a;wire b;join a a by c;");
         Check.rectangle(x, 0, 0, 0, 1, 1);
         Check.rectangle(x, 0, 2, 0, 1, 1);
         Check.rectangle(x, 0, 4, 0, 1, 1);
@@ -337,7 +331,7 @@ public final class FindTest {
         }
         Check.due("a wire that is not joined", 3, () -> x.net(1, 6, 0));
         // later joins make earlier nets one
-        DeviceFind chain = reading(4, 0, "input a=0;input b=1;input c=2;input d=3;wire a;wire b;"
+        DeviceFind chain = Check.reading(4, 0, "input a=0;input b=1;input c=2;input d=3;wire a;wire b;"
                 + "join a b by c;join b a by d;");
         for (int k = 0; k < 4; k++) {
             Check.rectangle(chain, 0, 4 * k, 0, 3, 1);
@@ -357,7 +351,7 @@ public final class FindTest {
     }
 
     private static void names() {
-        DeviceFind x = reading(2, 0, "input a=0;input b=1;wire a;wire b;join a b by b;");
+        DeviceFind x = Check.reading(2, 0, "input a=0;input b=1;wire a;wire b;join a b by b;");
         Check.rectangle(x, 0, 0, 0, 2, 1);
         Check.rectangle(x, 0, 4, 0, 2, 1);
         Check.rectangle(x, 1, 5, 0, 2, 1);
@@ -380,7 +374,7 @@ public final class FindTest {
     }
 
     private static void twiceNamed() {
-        DeviceFind once = reading(1, 0, "input a=0;wire a;");
+        DeviceFind once = Check.reading(1, 0, "input a=0;wire a;");
         Check.rectangle(once, 0, 0, 0, 1, 1);
         once.text(0, 0, 0, 5);
         once.run();
@@ -394,7 +388,7 @@ public final class FindTest {
         Check.due("two names", 5, () -> once.named(0));
         Check.due("two names", 0, () -> once.twice(0));
         Check.due("two names", -1, () -> once.twice(1));
-        DeviceFind x = reading(1, 0, "input a=0;wire a;");
+        DeviceFind x = Check.reading(1, 0, "input a=0;wire a;");
         for (int k = 0; k < 10; k++) {
             Check.rectangle(x, 0, 2 * k, 0, 1, 1);
         }
@@ -413,7 +407,7 @@ public final class FindTest {
         Check.due("the name 0", 0, () -> x.named(0));
         Check.due("the least of two", 8, () -> x.named(8));
         Check.due("twice(40)", -1, () -> x.twice(40));
-        DeviceFind most = reading(1, 0, "input a=0;wire a;");
+        DeviceFind most = Check.reading(1, 0, "input a=0;wire a;");
         for (int k = 0; k < 20; k++) {
             Check.rectangle(most, 0, 2 * k, 0, 1, 1);
             most.text(0, 2 * k, 0, 1);
@@ -425,7 +419,7 @@ public final class FindTest {
     }
 
     private static void joinedDevices() {
-        DeviceFind x = reading(4, 3, "input a=0;input b=1;input c=2;input e=3;wire b;wire c;join b b by e;"
+        DeviceFind x = Check.reading(4, 3, "input a=0;input b=1;input c=2;input e=3;wire b;wire c;join b b by e;"
                 + "device d=a pins b c;device f=a pins b;device g=e pins c;");
         // three places between the same nets, by way of a join; one between others; one bad
         Check.rectangle(x, 2, 0, 4, 20, 1);
@@ -443,7 +437,7 @@ public final class FindTest {
         Check.due("joined(1)", 2, () -> x.joined(1));
         Check.due("joined(2)", 0, () -> x.joined(2));
         // the same nets at other pins are others
-        DeviceFind turned = reading(3, 1, "input a=0;input b=1;input e=2;wire b;join b b by e;device d=a pins b b;");
+        DeviceFind turned = Check.reading(3, 1, "input a=0;input b=1;input e=2;wire b;join b b by e;device d=a pins b b;");
         Check.rectangle(turned, 0, 1, 0, 1, 1);
         Check.rectangle(turned, 1, 0, 0, 1, 1);
         Check.rectangle(turned, 1, 2, 0, 1, 1);
@@ -471,7 +465,7 @@ public final class FindTest {
 
     private static void tooManyDevices() {
         String text = "input a=0;input b=1;make c=a and b;wire c;device d=c pins c;";
-        DeviceFind most = reading(2, 1, text);
+        DeviceFind most = Check.reading(2, 1, text);
         grid(most, 15, 20);
         Check.due("run with 300", 300, most::run);
         Check.due("the last device", 299, () -> most.device(299, 1));
@@ -492,7 +486,7 @@ public final class FindTest {
         Check.due("run", 0, most::run);
         Check.due("nets", 16, () -> most.count(5));
         // devices of several kinds count together
-        DeviceFind kinds = reading(2, 2, text + "device e=a pins c;");
+        DeviceFind kinds = Check.reading(2, 2, text + "device e=a pins c;");
         grid(kinds, 15, 19);
         Check.due("run with 285 + 15", 300, kinds::run);
         Check.rectangle(kinds, 0, 62, 63, 1, 1);
@@ -505,7 +499,7 @@ public final class FindTest {
         for (char wire = 'g'; wire < 'n'; wire++) {
             text.append("make ").append(wire).append("=w or w;wire ").append(wire).append(';');
         }
-        DeviceFind x = reading(2, 1, text.append("wire w;device d=w pins w;").toString());
+        DeviceFind x = Check.reading(2, 1, text.append("wire w;device d=w pins w;").toString());
         for (int comb = 0; comb < 8; comb++) {
             combs(x, comb * 8);
         }
@@ -519,7 +513,7 @@ public final class FindTest {
 
     /** Nothing of an earlier run() is left in a later one. */
     private static void runsOneAfterAnother() {
-        DeviceFind x = reading(3, 1, "input a=0;input b=1;input c=2;wire b;device d=a pins b;");
+        DeviceFind x = Check.reading(3, 1, "input a=0;input b=1;input c=2;wire b;device d=a pins b;");
         Check.rectangle(x, 0, 0, 0, 1, 1);
         Check.rectangle(x, 0, 4, 0, 1, 1);
         Check.due("run", 2, x::run);
@@ -546,7 +540,7 @@ public final class FindTest {
     }
 
     private static void layersAnew() {
-        DeviceFind x = reading(2, 1, "input a=0;wire a;device d=a pins a;");
+        DeviceFind x = Check.reading(2, 1, "input a=0;wire a;device d=a pins a;");
         Check.rectangle(x, 0, 0, 0, 9, 9);
         Check.rectangle(x, 1, 20, 20, 1, 1);
         Check.due("run", 1, x::run);
@@ -558,7 +552,7 @@ public final class FindTest {
             Check.due("no net", -1, () -> x.net(0, 0, 0));
         }
         // what a run() that threw had at hand is not in the next one
-        DeviceFind many = reading(3, 1, "input a=0;input b=1;make c=a and b;wire c;device d=c pins c;");
+        DeviceFind many = Check.reading(3, 1, "input a=0;input b=1;make c=a and b;wire c;device d=c pins c;");
         grid(many, 18, 18);
         Check.due("run", UNSUPPORTED, many::run);
         Check.same("read", 1, Check.read(many, "input a=0;input e=2;wire e;device d=a pins e;"));
@@ -579,7 +573,7 @@ public final class FindTest {
             text.append("wire ").append(wire).append(';');
         }
         text.append("join q x by x;".repeat(14)).append("join r w by x;join s v by x;");
-        DeviceFind x = reading(1, 0, text.toString());
+        DeviceFind x = Check.reading(1, 0, text.toString());
         for (int k = 0; k < 59; k++) {
             Check.rectangle(x, 0, k, k, 1, 1);
         }
@@ -597,7 +591,7 @@ public final class FindTest {
             Check.due("net of wire " + wire, firstNets[wire], () -> x.net(w, 0, 0));
             Check.due("net of wire " + wire, firstNets[wire] + 59, () -> x.net(w, 63, 63));
         }
-        DeviceFind kinds = reading(1, 8, "input a=0;wire a;device a=a pins a;device b=a pins a;device c=a pins a;"
+        DeviceFind kinds = Check.reading(1, 8, "input a=0;wire a;device a=a pins a;device b=a pins a;device c=a pins a;"
                 + "device d=a pins a;device e=a pins a;device f=a pins a;device g=a pins a;device h=a pins a a a a;");
         for (int k = 0; k < 20; k++) {
             Check.rectangle(kinds, 0, 3 * k, k, 2, 1);

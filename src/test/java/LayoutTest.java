@@ -77,24 +77,12 @@ public final class LayoutTest {
         return x;
     }
 
-    /** The squares of the wire from (0, 0) on, as rows from y = 0 on parted by blanks. */
-    private static String picture(DeviceFind x, int width, int height) {
-        StringBuilder all = new StringBuilder();
-        for (int y = 0; y < height; y++) {
-            all.append(y == 0 ? "" : " ");
-            for (int column = 0; column < width; column++) {
-                all.append(x.net(0, column, y) == DeviceFind.NONE ? '.' : '#');
-            }
-        }
-        return all.toString();
-    }
-
     private static void filled(String want, int... corners) {
         DeviceFind x = wired(1);
         Check.polygon(x, 0, corners);
         x.run();
         int height = want.split(" ").length;
-        Check.same("squares", want, picture(x, want.indexOf(' '), height));
+        Check.same("squares", want, Check.picture(x, 0, want.indexOf(' '), height));
     }
 
     private static void openPolygons() {
@@ -121,10 +109,6 @@ public final class LayoutTest {
         filled("###. #.#. ###. ....", 0, 0, 3, 0, 3, 3, 0, 3, 0, 1, 1, 1, 1, 2, 2, 2, 2, 1, 0, 1);
         // two lobes that cross
         filled("##.. ##.. ..## ..##", 0, 0, 2, 0, 2, 4, 4, 4, 4, 2, 0, 2);
-        DeviceFind all = wired(1);
-        Check.polygon(all, 0, 0, 0, 64, 0, 64, 64, 0, 64);
-        all.run();
-        Check.same("the whole plane", "#".repeat(64).concat(" ").repeat(64).trim(), picture(all, 64, 64));
         DeviceFind edge = wired(1);
         Check.polygon(edge, 0, 63, 63, 64, 63, 64, 64, 63, 64);
         edge.run();
@@ -140,7 +124,7 @@ public final class LayoutTest {
         Check.rectangle(x, 2, 1, 1, 2, 2);
         Check.same("read", 0, Check.read(x, "input a=2;wire a;input b=2;wire b;"));
         x.run();
-        Check.same("polygons of one input together", "##.... ###... .##...", picture(x, 6, 3));
+        Check.same("polygons of one input together", "##.... ###... .##...", Check.picture(x, 0, 6, 3));
         Check.due("two layers of one input", 1, () -> x.net(1, 2, 2));
     }
 

@@ -58,9 +58,8 @@ public final class TextTest {
         Check.due("unit 10", 1, () -> x.unit(10));
         length++;
         Check.due("characters", length, () -> x.count(8));
-        for (; length < 800; length++) {
-            Check.due("unit within 800", 1, () -> x.unit(' '));
-        }
+        Check.tape(x, " ".repeat(799 - length));
+        Check.due("unit within 800", 1, () -> x.unit(' '));
         Check.due("unit beyond 800", 0, () -> x.unit(' '));
         Check.due("characters", 800, () -> x.count(8));
         Check.due("read", -1, x::read);
